@@ -98,8 +98,9 @@ public final class OracleTest {
         int texts = 0;
         for (int k = 0; k < 12; k++) {
             Maker maker = new Maker();
-            String text = pick(2) == 0 ? maker.text() : maker.deepText();
-            text = spoil(text);
+            int kind = pick(5);
+            String text = kind < 2 ? maker.text() : kind < 4 ? maker.deepText() : maker.fullText();
+            text = kind == 4 && pick(3) > 0 ? text : pick(4) == 0 ? spoilLines(text) : spoil(text);
             if (text.length() > 700) {
                 continue;
             }
@@ -140,6 +141,13 @@ public final class OracleTest {
         return text;
     }
 
+    /** A line of the text stands in it once more. */
+    private static String spoilLines(String text) {
+        List<String> lines = new ArrayList<>(Arrays.asList(text.split("(?<=;)")));
+        lines.add(pick(1, lines.size()), lines.get(pick(lines.size())));
+        return String.join("", lines);
+    }
+
     /** Makes texts of books that have no fault. */
     private static final class Maker {
         final StringBuilder out = new StringBuilder();
@@ -149,12 +157,19 @@ public final class OracleTest {
             legs = pick(2, pick(3) > 0 ? 3 : 6);
             length = pick(3) == 0 ? 50 : pick(50, 400);
             cut = pick(3) == 0 ? 0 : pick(0, length);
-            out.append("track ").append(legs).append(' ').append(length).append(' ').append(pick(0, 20)).append(' ')
-                .append(pick(0, 20)).append(' ').append(cut).append(pick(2) == 0 ? ";" : " ;\n");
             int teams = pick(8) == 0 ? pick(0, 1) : pick(2, pick(3) > 0 ? 4 : 6);
             int[] told = new int[6];
             int[] lanes = {1, 2, 3, 4, 5, 6, 7, 8, 9};
-            boolean alike = pick(4) == 0;
+            boolean alike = pick(3) == 0;
+            boolean crowded = pick(3) == 0;
+            boolean oneImpedes = crowded && pick(3) > 0;
+            if (oneImpedes) {
+                legs = 2;
+                teams = pick(4, 6);
+                alike = true;
+            }
+            out.append("track ").append(legs).append(' ').append(length).append(' ').append(pick(0, 20)).append(' ')
+                .append(pick(0, 20)).append(' ').append(cut).append(pick(2) == 0 ? ";" : " ;\n");
             for (int t = 0; t < teams; t++) {
                 int j = pick(t, 8);
                 int lane = lanes[j];
@@ -179,20 +194,23 @@ public final class OracleTest {
                 }
             }
             int acts = teams == 0 ? 0 : pick(3) == 0 ? pick(0, 12) : pick(0, 6);
-            for (int i = 0; i < acts; i++) {
-                int t = pick(teams);
-                int kind = teams < 2 ? pick(3) : pick(3) == 0 ? 3 : pick(4);
+            for (int i = 0; i < (oneImpedes ? pick(3, 6) : acts); i++) {
+                int t = oneImpedes ? 0 : pick(teams);
+                int kind = teams < 2 ? pick(3) : crowded || pick(3) == 0 ? 3 : pick(4);
                 String other = kind == 3 ? " " + name((t + pick(1, teams - 1)) % teams) : "";
                 int tenth = pick(20) == 0 ? pick(0, 9999) : pick(4) == 0 ? pick(0, legs * 150) : pick(0, 60);
                 line("act " + KIND[kind] + " " + name(t) + other + " " + tenth + " " + pick(0, pick(2) == 0 ? 9 : 99));
             }
             if (pick(2) == 0) {
-                line("through " + pick(1, 6));
+                line("through " + pick(1, oneImpedes ? 1 : 6));
             }
             if (pick(2) == 0) {
                 line("within " + pick(0, 99));
             }
-            for (int i = pick(0, 8); i > 0 && out.length() < 560; i--) {
+            if (crowded) {
+                line("rule hh impede when " + one("size > 7", "lane < 4", "tenth > 30", "lane = 1 or other < 9 and not leg = 1"));
+            }
+            for (int i = pick(0, crowded ? 2 : 8); i > 0 && out.length() < 560; i--) {
                 rule(i);
             }
             return out.toString();
@@ -210,11 +228,37 @@ public final class OracleTest {
             return out.toString();
         }
 
+        /** A text of as many lines of each sort as may be, of some sorts perhaps one more. */
+        String fullText() {
+            List<String> lines = new ArrayList<>();
+            int teams = pick(1, 7);
+            for (int t = 0; t < teams; t++) {
+                lines.add("team " + name(t) + " " + (t + 1) + ";");
+            }
+            int sort = pick(4);
+            for (int i = sort == 0 ? pick(11, 13) : pick(2); i > 0; i--) {
+                lines.add(pick(0, lines.size()), "act lane a 1 2;");
+            }
+            for (int i = sort == 1 ? pick(7, 9) : pick(2); i > 0; i--) {
+                lines.add(pick(0, lines.size()), "rule " + name(i) + " box when 1<2;");
+            }
+            for (int i = sort == 2 ? pick(1, 4) : 0; i > 0; i--) {
+                lines.add(pick(0, lines.size()), one("through 3;", "within 7;"));
+            }
+            for (int i = sort == 3 ? pick(2, 4) : pick(2); i > 0; i--) {
+                lines.add(pick(1, lines.size()), "runs a 99 0;");
+            }
+            if (pick(3) > 0) {
+                lines.sort(Comparator.comparing(l -> !l.startsWith("team")));
+            }
+            return "track 3 77 1 2 3;" + String.join(one("", " ", "\n"), lines);
+        }
+
         static final String[] KIND = {"drop", "lane", "cut", "impede", "box"};
         static final String[] FACT = {"tenth", "size", "leg", "place", "lane", "other", "ahead", "cut", "again", "forced", "rank"};
 
         String name(int t) {
-            return "abcdefgh".substring(t, t + 1) + (t % 2 == 0 ? "" : "xyz");
+            return "abcdefghij".substring(t, t + 1) + (t % 2 == 0 ? "" : "xyz");
         }
 
         void line(String text) {
