@@ -12,6 +12,8 @@ import java.util.TreeSet;
 public final class OracleTest {
     private static int wrong = 0;
     private static long seed;
+    private static final int[] EXTREMES = {Integer.MIN_VALUE, Integer.MIN_VALUE + 1, -2000000, -65536, -64, -2, -1, 6, 7, 8, 12, 31,
+        32, 33, 42, 63, 64, 65, 99, 100, 256, 999, 1000, 9999, 10000, 65536, Integer.MAX_VALUE - 1, Integer.MAX_VALUE};
 
     private static int pick(int below) {
         seed = seed * 6364136223846793005L + 1442695040888963407L;
@@ -68,6 +70,9 @@ public final class OracleTest {
             }
             for (int k = 0; k < 180; k++) {
                 int[] a = Calls.make(oracle, OracleTest::pick);
+                if (pick(12) == 0) {
+                    a[pick(1, 4)] = EXTREMES[pick(EXTREMES.length)];
+                }
                 compare(round, Calls.text(a), Calls.ask(zones, a), oracle.ask(a), text);
                 calls++;
             }
@@ -1468,7 +1473,7 @@ final class Oracle {
     int measure(int t, int leg, int tenths, int metres) {
         Known.Runner r = team(t);
         if (r == null || leg < 1 || leg > r.legs.size() || tenths < 20 || tenths > 999
-            || Math.abs(metres) > (leg == now.legs ? 0 : 20)) {
+            || metres < (leg == now.legs ? 0 : -20) || metres > (leg == now.legs ? 0 : 20)) {
             return NONE;
         }
         if (r.legs.get(leg - 1)[0] == tenths && r.legs.get(leg - 1)[1] == metres) {

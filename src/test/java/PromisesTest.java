@@ -252,6 +252,9 @@ public final class PromisesTest {
         // 61 * 110 / 960 = 6.99, 62 * 110 / 960 = 7.1
         row("comes of bob", new int[] {z.comes(1, 0), z.comes(1, 61), z.comes(1, 62), z.comes(1, 960), z.comes(1, 961), z.comes(1, 972),
             z.comes(1, 973), z.comes(1, 3000), z.comes(1, 3001)}, 0, 7, 8, 110, 111, 111, 112, 305, -2);
+        // 901 * 101 / 1000 = 91.001
+        BatonZones close = of("track 2 100 0 0 0;team a 1;runs a 101 0;");
+        row("comes a little late", new int[] {close.comes(0, 901), close.place(0, 91), close.place(0, 92)}, 92, 900, 910);
         row("comes of cat", new int[] {z.comes(2, 1200), z.comes(2, 1201), z.comes(2, MAX)}, 105, -2, -2);
         row("without legs", new int[] {z.comes(3, 0), z.comes(3, 1)}, 0, -2);
         row("none", new int[] {z.comes(0, -1), z.comes(0, MIN), z.comes(-1, 0), z.comes(4, 0)}, -1, -1, -1, -1);
@@ -279,12 +282,18 @@ public final class PromisesTest {
         BatonZones three = of("track 2 100 0 0 0;team a 1;team b 2;team c 3;runs a 50 0;runs b 40 0;runs b 999 0;runs c 50 0;");
         // b is the most ahead at 40 (200); a is least behind at 0 and never ahead but then alike
         row("boldest of three", new int[] {three.boldest(0), three.boldest(1), three.boldest(2)}, 0, 1039, 0);
+        // a is ahead by 1 from tenth 1 to 950, where it stays; b comes to 2990 at 997
+        BatonZones least = of("track 2 290 0 0 0;team a 1;team b 2;runs a 950 -5;runs b 997 9;");
+        row("boldest from the first tenth on", new int[] {least.boldest(0), least.boldest(1)}, 1, 997);
         promise = 14;
         row("never", new int[] {z.changes(0, 1), z.changes(1, 0)}, 0, 0);
         // a ahead, alike at the line, b ahead, and at the end a again (b at 150 behind 300)
         BatonZones w = of("track 3 100 0 0 0;team a 1;team b 2;runs a 90 0;runs a 110 0;runs a 80 0;runs b 100 0;runs b 90 0;runs b 100 0;");
         row("changes", new int[] {w.changes(0, 1), w.changes(1, 0), w.changes(0, 0), w.changes(0, 2), w.changes(-1, 0), w.changes(2, 0)},
             2, 2, -1, -1, -1, -1);
+        // a stays at 690 from 20 on, b is at 672 at 24 and at 700 at 25
+        BatonZones late = of("track 2 50 0 0 0;team a 1;team b 2;runs a 20 19;runs b 25 20;");
+        row("at the last tenth of all", new int[] {late.changes(0, 1), late.place(1, 24), late.place(1, 25)}, 1, 672, 700);
         // alike from 100 on, between them nothing changes
         BatonZones alike = of("track 2 100 0 0 0;team a 1;team b 2;runs a 100 5;runs a 100 0;runs b 100 0;runs b 100 0;");
         due("alike at the ends", alike.changes(0, 1), 0);
@@ -672,6 +681,15 @@ public final class PromisesTest {
         row("all of a kind", new int[] {pair.stays(0, 0), pair.stays(0, 1)}, 4, 15);
         BatonZones trade = of("track 2 50 0 0 0;team a 1;team b 2;act impede b a 1 1;act drop a 5 1;act drop a 6 1;rule x drop when forced=1;");
         row("another's act is fewer", new int[] {trade.stays(0, 0), trade.stays(0, 1)}, 1, 1);
+        String ab = "track 2 50 0 0 0;team a 1;team b 2;";
+        BatonZones first = of(ab + "act drop a 30 1;act drop a 10 1;rule x drop when again=1;");
+        row("act 0 comes behind act 1", new int[] {first.stays(0, 0), first.stays(0, 1)}, 1, 1);
+        BatonZones forced = of(ab + "act impede b a 5 1;act drop a 1 1;act drop a 6 1;rule x drop when again=1;");
+        row("forced tells nothing", new int[] {forced.stays(0, 0), forced.stays(0, 1)}, 1, 2);
+        BatonZones fifth = of(ab + "act drop a 1 1;".repeat(5) + "act lane a 9 1;rule x drop when again=4;");
+        row("the fifth drop alone", new int[] {fifth.stays(0, 0), fifth.stays(0, 1)}, 1, 1);
+        BatonZones never = of(ab + "act drop a 9 1;" + "act drop a 1 9;".repeat(4) + "rule x drop when size=9 or again=0;");
+        row("without those ahead of it, it is struck", new int[] {never.stays(0, 0), never.stays(0, 1)}, 5, 31);
         BatonZones worse = of("track 2 50 0 0 0;team a 1;team b 2;act impede b a 1 1;act drop a 5 1;rule x drop when forced=0;");
         row("a waived act would strike it", new int[] {worse.stays(0, 0), worse.waive(0), worse.stays(0, 0), worse.stays(0, 1)}, 0, 1, 1, 2);
     }
