@@ -28,13 +28,14 @@ public final class BatonZones {
     private static final int DM = 10;
     private static final int IMPEDE = 3;
     private static final int BOX = 4;
-    private static final int OUT = Integer.MAX_VALUE;
+    /** A key greater than all that can be. */
+    private static final int OUT = 2147483647;
 
     private final int[] tape = new int[MOST_BYTES];
     private int fed;
     private Book told = new Book();
     private Book spare = new Book();
-    private final Reader reader;
+    private final Reader reader = new Reader();
     private final Race race = new Race();
     private final Judge judge = new Judge();
     private final Verdict verdict = new Verdict();
@@ -42,7 +43,6 @@ public final class BatonZones {
     private final Appeals appeals = new Appeals();
 
     public BatonZones() {
-        reader = new Reader(tape, spare);
     }
 
     // ---- the text
@@ -77,7 +77,7 @@ public final class BatonZones {
     }
 
     public int book() {
-        int lines = reader.read(spare, fed);
+        int lines = reader.read(tape, fed, spare);
         fed = 0;
         if (lines == NONE) {
             return NONE;
@@ -336,7 +336,7 @@ public final class BatonZones {
         int first = verdict.firstStruckAct(told, team);
         switch (what) {
             case 0: return first;
-            case 1: return first == NEVER ? NEVER : Integer.numberOfTrailingZeros(verdict.rulesStriking(first));
+            case 1: return verdict.firstRuleStriking(first);
             case 2: return verdict.struckActs(told, team);
             default: return NONE;
         }
@@ -493,7 +493,7 @@ public final class BatonZones {
         private static final int LETTER_BITS = 5;
         private static final int MOST_DIGITS = 4;
 
-        private final int[] text;
+        private int[] text = new int[0];
         private int length;
         private int next;
         /** END, WORD, NUMBER, BAD, or the sign itself. */
@@ -503,11 +503,8 @@ public final class BatonZones {
         /** Letters of five bits, the first one lowest. */
         long word;
 
-        Tokens(int[] text) {
-            this.text = text;
-        }
-
-        void open(int bytes) {
+        void open(int[] tape, int bytes) {
+            text = tape;
             length = Math.min(bytes, text.length);
             next = 0;
             advance();
@@ -621,9 +618,8 @@ public final class BatonZones {
         private static final int WHEN = 0;
         private static final int EXCUSE = 1;
 
-        private final Tokens tokens;
-        private final Conditions conditions;
-        private Book book;
+        private final Tokens tokens = new Tokens();
+        private final Conditions conditions = new Conditions();
         private boolean throughTold;
         private boolean withinTold;
         /** The number that was taken last. */
@@ -631,34 +627,27 @@ public final class BatonZones {
         int fault;
         int faultPlace = NONE;
 
-        Reader(int[] text, Book first) {
-            tokens = new Tokens(text);
-            book = first;
-            conditions = new Conditions(tokens, first.terms);
-        }
-
         /** How many lines the text has; NONE at a fault: the book is half told then. */
-        int read(Book into, int bytes) {
-            book = into;
+        int read(int[] tape, int bytes, Book book) {
             book.clear();
             throughTold = false;
             withinTold = false;
             fault = 0;
             faultPlace = NONE;
-            tokens.open(bytes);
-            if (!readTrack()) {
+            tokens.open(tape, bytes);
+            if (!readTrack(book)) {
                 return NONE;
             }
             int lines = 0;
             for (; lines < MOST_BYTES && tokens.kind != Tokens.END; lines++) {
                 boolean isRead;
                 switch (tokens.indexIn(Tokens.LINES)) {
-                    case TEAM: isRead = readTeam(); break;
-                    case RUNS: isRead = readRuns(); break;
-                    case ACT: isRead = readAct(); break;
-                    case RULE: isRead = readRule(); break;
-                    case THROUGH: isRead = readThrough(); break;
-                    case WITHIN: isRead = readWithin(); break;
+                    case TEAM: isRead = readTeam(book); break;
+                    case RUNS: isRead = readRuns(book); break;
+                    case ACT: isRead = readAct(book); break;
+                    case RULE: isRead = readRule(book); break;
+                    case THROUGH: isRead = readThrough(book); break;
+                    case WITHIN: isRead = readWithin(book); break;
                     default: isRead = fail(MISPLACED); break;
                 }
                 if (!isRead || !takeSign(';')) {
@@ -703,7 +692,7 @@ public final class BatonZones {
             return true;
         }
 
-        private boolean readTrack() {
+        private boolean readTrack(Book book) {
             if (!takeWord(Tokens.LINES, TRACK) || !takeNumber(2, MOST_LEGS)) {
                 return false;
             }
@@ -727,7 +716,7 @@ public final class BatonZones {
             return takeSign(';');
         }
 
-        private boolean readTeam() {
+        private boolean readTeam(Book book) {
             if (book.teams >= MOST_TEAMS) {
                 return fail(TOO_MANY);
             }
@@ -751,7 +740,7 @@ public final class BatonZones {
         }
 
         /** The team whose name the token is; NONE, and a fault, if it is none or one not to be. */
-        private int takeTeam(int notThis) {
+        private int takeTeam(Book book, int notThis) {
             if (!tokens.isName()) {
                 fail(MISPLACED);
                 return NONE;
@@ -765,13 +754,13 @@ public final class BatonZones {
             return team;
         }
 
-        private boolean readRuns() {
+        private boolean readRuns(Book book) {
             tokens.advance();
             int known = tokens.isName() ? book.teamOfName(tokens.word) : NONE;
             if (known != NONE && book.runner(known).told >= book.legs) {
                 return fail(TOO_MANY);
             }
-            int team = takeTeam(NONE);
+            int team = takeTeam(book, NONE);
             if (team == NONE || !takeNumber(LEAST_LEG_TENTHS, MOST_LEG_TENTHS)) {
                 return false;
             }
@@ -788,7 +777,7 @@ public final class BatonZones {
             return true;
         }
 
-        private boolean readAct() {
+        private boolean readAct(Book book) {
             if (book.actsTold >= MOST_TOLD) {
                 return fail(TOO_MANY);
             }
@@ -798,11 +787,11 @@ public final class BatonZones {
                 return fail(MISPLACED);
             }
             tokens.advance();
-            int team = takeTeam(NONE);
+            int team = takeTeam(book, NONE);
             if (team == NONE) {
                 return false;
             }
-            int other = kind == IMPEDE ? takeTeam(team) : NONE;
+            int other = kind == IMPEDE ? takeTeam(book, team) : NONE;
             if (fault != 0 || !takeNumber(0, LAST_TENTH)) {
                 return false;
             }
@@ -814,7 +803,7 @@ public final class BatonZones {
             return true;
         }
 
-        private boolean readRule() {
+        private boolean readRule(Book book) {
             if (book.rules >= MOST_RULES) {
                 return fail(TOO_MANY);
             }
@@ -847,7 +836,7 @@ public final class BatonZones {
             return true;
         }
 
-        private boolean readThrough() {
+        private boolean readThrough(Book book) {
             if (throughTold) {
                 return fail(ONCE_MORE);
             }
@@ -860,7 +849,7 @@ public final class BatonZones {
             return true;
         }
 
-        private boolean readWithin() {
+        private boolean readWithin(Book book) {
             if (withinTold) {
                 return fail(ONCE_MORE);
             }
@@ -886,8 +875,6 @@ public final class BatonZones {
         private static final int HAS_NUMBER = 2;
         private static final int HAS_TRUTH = 3;
 
-        private Tokens tokens;
-        private Terms terms;
         private int state;
         /** ( { not that are open. */
         private int open;
@@ -900,40 +887,33 @@ public final class BatonZones {
         private final int[] operand = new int[MOST_WAITING];
         private int waits;
 
-        Conditions(Tokens tokens, Terms terms) {
-            this.tokens = tokens;
-            this.terms = terms;
-        }
-
         /** 0, and the token is that behind the condition; else which fault there is at the token. */
-        int read(Tokens from, Terms into, int condition) {
-            tokens = from;
-            terms = into;
+        int read(Tokens tokens, Terms terms, int condition) {
             state = WANTS_TRUTH;
             open = 0;
             waits = 0;
             terms.begin(condition);
             for (int steps = 0; steps <= MOST_BYTES; steps++) {
-                if (state == HAS_NUMBER && comparisonEnds()) {
-                    reduce(Terms.NOT);
+                if (state == HAS_NUMBER && comparisonEnds(tokens)) {
+                    reduce(terms, Terms.NOT);
                     state = HAS_TRUTH;
                 }
-                if (state == HAS_TRUTH && truthEnds()) {
-                    reduce(Terms.OR);
+                if (state == HAS_TRUTH && truthEnds(tokens)) {
+                    reduce(terms, Terms.OR);
                     terms.finish();
                     return open == 0 ? 0 : Reader.MISPLACED;
                 }
-                if (state == WANTS_TRUTH && comparisonStarts()) {
+                if (state == WANTS_TRUTH && comparisonStarts(tokens)) {
                     compared = false;
                     curly = 0;
                     state = WANTS_NUMBER;
                 }
                 int wrong;
                 switch (state) {
-                    case WANTS_TRUTH: wrong = openOne(tokens.kind == '(' ? Terms.ROUND : Terms.NOT); break;
-                    case WANTS_NUMBER: wrong = startNumber(); break;
-                    case HAS_NUMBER: wrong = goOnWithNumber(); break;
-                    default: wrong = goOnWithTruth(); break;
+                    case WANTS_TRUTH: wrong = openOne(terms, tokens.kind == '(' ? Terms.ROUND : Terms.NOT); break;
+                    case WANTS_NUMBER: wrong = startNumber(tokens, terms); break;
+                    case HAS_NUMBER: wrong = goOnWithNumber(tokens, terms); break;
+                    default: wrong = goOnWithTruth(tokens, terms); break;
                 }
                 if (wrong != 0) {
                     return wrong;
@@ -943,24 +923,24 @@ public final class BatonZones {
             return Reader.MISPLACED;
         }
 
-        private boolean comparisonEnds() {
+        private boolean comparisonEnds(Tokens tokens) {
             return compared && curly == 0
                 && tokens.kind != '+' && tokens.kind != '-' && tokens.kind != '*';
         }
 
-        private boolean truthEnds() {
+        private boolean truthEnds(Tokens tokens) {
             int join = tokens.indexIn(Tokens.JOINS);
             return join != AND && join != OR && (tokens.kind != ')' || open == 0);
         }
 
-        private boolean comparisonStarts() {
+        private boolean comparisonStarts(Tokens tokens) {
             return tokens.kind != '(' && tokens.indexIn(Tokens.JOINS) != NOT;
         }
 
-        private int startNumber() {
+        private int startNumber(Tokens tokens, Terms terms) {
             if (tokens.kind == '{') {
                 curly++;
-                return openOne(Terms.CURLY);
+                return openOne(terms, Terms.CURLY);
             }
             int fact = tokens.indexIn(Tokens.FACTS);
             if (tokens.kind != Tokens.NUMBER && fact == NONE) {
@@ -975,66 +955,66 @@ public final class BatonZones {
             return 0;
         }
 
-        private int openOne(int op) {
+        private int openOne(Terms terms, int op) {
             if (open >= MOST_OPEN) {
                 return Reader.TOO_DEEP;
             }
             open++;
-            push(op);
+            push(terms, op);
             return 0;
         }
 
-        private int goOnWithNumber() {
+        private int goOnWithNumber(Tokens tokens, Terms terms) {
             switch (tokens.kind) {
-                case '+': return join(Terms.PLUS, Terms.PLUS);
-                case '-': return join(Terms.MINUS, Terms.PLUS);
-                case '*': return join(Terms.TIMES, Terms.TIMES);
-                case '<': return join(Terms.LESS, Terms.LESS);
-                case '>': return join(Terms.MORE, Terms.LESS);
-                case '=': return join(Terms.LIKE, Terms.LESS);
-                case '}': return closeCurly();
+                case '+': return join(terms, Terms.PLUS, Terms.PLUS);
+                case '-': return join(terms, Terms.MINUS, Terms.PLUS);
+                case '*': return join(terms, Terms.TIMES, Terms.TIMES);
+                case '<': return join(terms, Terms.LESS, Terms.LESS);
+                case '>': return join(terms, Terms.MORE, Terms.LESS);
+                case '=': return join(terms, Terms.LIKE, Terms.LESS);
+                case '}': return closeCurly(terms);
                 default: return Reader.MISPLACED;
             }
         }
 
-        private int closeCurly() {
+        private int closeCurly(Terms terms) {
             if (curly == 0) {
                 return Reader.MISPLACED;
             }
-            reduce(Terms.OR);
+            reduce(terms, Terms.OR);
             curly--;
             open--;
             waits--;
             return 0;
         }
 
-        private int goOnWithTruth() {
+        private int goOnWithTruth(Tokens tokens, Terms terms) {
             if (tokens.kind == ')') {
-                reduce(Terms.OR);
+                reduce(terms, Terms.OR);
                 open--;
                 waits--;
-                reduce(Terms.NOT);
+                reduce(terms, Terms.NOT);
                 return 0;
             }
             int op = tokens.indexIn(Tokens.JOINS) == AND ? Terms.AND : Terms.OR;
-            return join(op, op);
+            return join(terms, op, op);
         }
 
         /** An operator waits for what is behind it; those ahead that bind as tight as a certain one don't any more. */
-        private int join(int op, int tightest) {
+        private int join(Terms terms, int op, int tightest) {
             if (Terms.isComparison(op)) {
                 if (compared || curly > 0) {
                     return Reader.MISPLACED;
                 }
                 compared = true;
             }
-            reduce(tightest);
-            push(op);
+            reduce(terms, tightest);
+            push(terms, op);
             state = op == Terms.AND || op == Terms.OR ? WANTS_TRUTH : WANTS_NUMBER;
             return 0;
         }
 
-        private void push(int op) {
+        private void push(Terms terms, int op) {
             if (waits >= 0 && waits < MOST_WAITING) {
                 waiting[waits] = op;
                 operand[waits] = terms.size - 1;
@@ -1043,7 +1023,7 @@ public final class BatonZones {
         }
 
         /** Operators that bind as tight as one or tighter have what is behind them, the latest first. */
-        private void reduce(int tightest) {
+        private void reduce(Terms terms, int tightest) {
             while (waits > 0 && waits <= MOST_WAITING && waiting[waits - 1] >= tightest) {
                 waits--;
                 int op = waiting[waits];
@@ -1553,14 +1533,15 @@ public final class BatonZones {
         int leadChanges(Book book, int one, int other) {
             int last = lastTenth(book);
             int found = 0;
-            int leader = 0;
+            int leader = NONE;
             for (int tenth = 0; tenth <= last; tenth++) {
-                int now = Integer.signum(book.runner(one).whereAt(tenth) - book.runner(other).whereAt(tenth));
-                if (now != 0) {
-                    if (leader == -now) {
+                int lead = book.runner(one).whereAt(tenth) - book.runner(other).whereAt(tenth);
+                if (lead != 0) {
+                    int ahead = lead > 0 ? one : other;
+                    if (leader != NONE && leader != ahead) {
                         found++;
                     }
-                    leader = now;
+                    leader = ahead;
                 }
             }
             return found;
@@ -1628,7 +1609,7 @@ public final class BatonZones {
     private static final class Judge {
         static final int FACTS = 11;
         /** What a term comes to that is beyond 32 bits. */
-        private static final long BEYOND = Long.MIN_VALUE;
+        private static final long BEYOND = 1L << 63;
         private static final int MOST_FORCED = 16;
         private static final int MEMO_LONGS = 4;
 
@@ -1723,7 +1704,7 @@ public final class BatonZones {
         }
 
         private static long within32(long number) {
-            return number < Integer.MIN_VALUE || number > Integer.MAX_VALUE ? BEYOND : number;
+            return number == (int) number ? number : BEYOND;
         }
 
         /** How many comparisons tell what isSo() last answered (i NONE), or the i-th of them. */
@@ -1984,6 +1965,16 @@ public final class BatonZones {
 
         int rulesStriking(int act) {
             return at(strikes, act);
+        }
+
+        /** NEVER if no rule does. */
+        int firstRuleStriking(int act) {
+            for (int rule = 0; rule < MOST_RULES; rule++) {
+                if ((rulesStriking(act) >> rule & 1) == 1) {
+                    return rule;
+                }
+            }
+            return NEVER;
         }
 
         /** By tenth, then by number. */

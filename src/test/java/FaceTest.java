@@ -107,6 +107,7 @@ public final class FaceTest {
             must(!code.contains(piece), "stands in it: " + piece);
         }
         must(!Pattern.compile("\\bnew\\s+\\w+\\([^;{]*\\)\\s*\\{").matcher(code).find(), "a class without a name");
+        must(!Pattern.compile("\\b(Integer|Long|Math)\\.[A-Z]").matcher(code).find(), "a constant of the library");
         must(!Pattern.compile("(String|Team|Act|Book)\\s*\\[\\]\\s*\\[\\]").matcher(code).find(), "two dimensions of objects");
         Matcher imports = Pattern.compile("import\\s+([\\w.*]+)").matcher(code);
         while (imports.find()) {

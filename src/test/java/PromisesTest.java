@@ -394,6 +394,17 @@ public final class PromisesTest {
         row("none", new int[] {z.act(-1, 0), z.act(9, 0), z.act(MAX, 0), z.act(MIN, 0), z.act(0, MAX)}, NO, NO, NO, NO, NO);
         z.waive(3);
         row("waived", new int[] {z.act(3, 5), z.act(2, 5)}, 1, 0);
+        StringBuilder full = new StringBuilder("track 6 50 0 0 0;");
+        for (int t = 0; t < 6; t++) {
+            full.append("team ").append("abcdef".charAt(t)).append(' ').append(t + 1).append(';');
+            for (int l = 0; l < 6; l++) {
+                full.append("runs ").append("abcdef".charAt(t)).append(" 20 0;");
+            }
+        }
+        BatonZones all = of(full + "act cut a 1 1;".repeat(12) + "rule x box when again=4;");
+        row("all acts that there can be", new int[] {all.about(6), all.act(41, 1), all.act(41, 3), all.fact(41, 8), all.struckBy(41, 0), all.struckBy(40, 0),
+            all.act(42, 0), all.struck(5, 0), all.who(0), all.stays(5, 0), all.winner(41), all.waive(11), all.waive(12)},
+            42, 5, 100, 4, 1, 0, NO, 41, 63, -2, 5, 1, -1);
         BatonZones ahead = of("track 3 100 10 15 0;team a 1;runs a 99 -10;runs a 99 -11;runs a 99 0;team b 2;runs b 99 15;runs b 99 16;");
         all("metres outside", 0, 3, i -> ahead.act(i, 4), 0, 1, 0, 1);
     }
