@@ -724,7 +724,7 @@ public final class BatonZones {
             if (!tokens.isName()) {
                 return fail(MISPLACED);
             }
-            if (book.teamOfName(tokens.word) != NONE) {
+            if (book.isNameTaken(tokens.word)) {
                 return fail(BAD_NAME);
             }
             long name = tokens.word;
@@ -811,7 +811,7 @@ public final class BatonZones {
             if (!tokens.isName()) {
                 return fail(MISPLACED);
             }
-            if (book.hasRuleOfName(tokens.word)) {
+            if (book.isNameTaken(tokens.word)) {
                 return fail(BAD_NAME);
             }
             long name = tokens.word;
@@ -1350,7 +1350,11 @@ public final class BatonZones {
             return NONE;
         }
 
-        boolean hasRuleOfName(long name) {
+        /** Teams and rules share their names: none of either may have one that any of them has. */
+        boolean isNameTaken(long name) {
+            if (teamOfName(name) != NONE) {
+                return true;
+            }
             for (int rule = 0; rule < rules; rule++) {
                 if (nameOfRule(rule) == name) {
                     return true;

@@ -139,9 +139,23 @@ public final class FaultsTest {
         fault(3, TEAMS + "act impede a ^a 1 1;");
         fault(3, TEAMS + "rule r drop when 1=1;rule ^r box when 1=1;");
         fault(3, T + "runs ^a 20 0;team a 1;");
-        // a team's name is none of a rule and the other way round
+        // a rule's name is that of no team that runs or acts
         fault(3, TEAMS + "rule r drop when 1=1;runs ^r 20 0;");
-        check(TEAMS + "rule a drop when 1=1;rule b drop when 1=1;team r 3;", 0, -1);
+        fault(3, TEAMS + "rule r drop when 1=1;act drop ^r 1 1;");
+        fault(3, TEAMS + "rule r drop when 1=1;act impede a ^r 1 1;");
+        // teams and rules can't have one another's names, whichever of them comes first, whatever is behind
+        fault(3, TEAMS + "rule ^a drop when 1=1;");
+        fault(3, TEAMS + "rule ^b drop when 1=1;");
+        fault(3, TEAMS + "rule ^b");
+        fault(3, TEAMS + "rule ^b\0");
+        fault(3, TEAMS + "rule r drop when 1=1;team ^r 3;");
+        fault(3, TEAMS + "rule r drop when 1=1;rule s box when 1=1;team ^s 3;");
+        fault(3, TEAMS + "rule r drop when 1=1;team ^r 1;");
+        fault(3, TEAMS + "rule r drop when 1=1;team ^r");
+        fault(3, T + "team abcdefgh 1;rule ^abcdefgh drop when 1=1;");
+        fault(3, T + "rule abcdefgh drop when 1=1;team ^abcdefgh 1;");
+        check(TEAMS + "rule aa drop when 1=1;rule ab drop when 1=1;team ba 3;", 0, -1);
+        check(T + "rule r drop when 1=1;team s 3;rule t box when 1=1;team u 4;", 0, -1);
     }
 
     private static void numbers() {
@@ -185,12 +199,13 @@ public final class FaultsTest {
         fault(5, twelve + "^act drop a 1 1;");
         fault(5, twelve + "^act box");
         String eight = TEAMS;
-        for (char c = 'a'; c <= 'h'; c++) {
+        for (char c = 'k'; c <= 'r'; c++) {
             eight += "rule " + c + " box when 1=1;";
         }
         check(eight, 0, -1);
-        fault(5, eight + "^rule i box when 1=1;");
+        fault(5, eight + "^rule s box when 1=1;");
         fault(5, eight + "^rule a");
+        fault(5, eight + "^rule k");
         String two = TEAMS + "runs a 20 1;runs a 20 0;";
         check(two, 0, -1);
         fault(5, two + "runs ^a 20 0;");

@@ -103,6 +103,7 @@ public final class OracleTest {
         int texts = 0;
         for (int k = 0; k < 12; k++) {
             Maker maker = new Maker();
+            maker.sharesNames = pick(3) == 0;
             int kind = pick(5);
             String text = kind < 2 ? maker.text() : kind < 4 ? maker.deepText() : maker.fullText();
             text = kind == 4 && pick(3) > 0 ? text : pick(4) == 0 ? spoilLines(text) : spoil(text);
@@ -153,10 +154,11 @@ public final class OracleTest {
         return String.join("", lines);
     }
 
-    /** Makes texts of books that have no fault. */
+    /** Makes texts of books that have no fault, but names of teams that rules share if these are asked for. */
     private static final class Maker {
         final StringBuilder out = new StringBuilder();
         int legs, length, cut, open;
+        boolean sharesNames;
 
         String text() {
             legs = pick(2, pick(3) > 0 ? 3 : 6);
@@ -245,7 +247,7 @@ public final class OracleTest {
                 lines.add(pick(0, lines.size()), "act lane a 1 2;");
             }
             for (int i = sort == 1 ? pick(7, 9) : pick(2); i > 0; i--) {
-                lines.add(pick(0, lines.size()), "rule " + name(i) + " box when 1<2;");
+                lines.add(pick(0, lines.size()), "rule " + ruleName(i) + " box when 1<2;");
             }
             for (int i = sort == 2 ? pick(1, 4) : 0; i > 0; i--) {
                 lines.add(pick(0, lines.size()), one("through 3;", "within 7;"));
@@ -266,6 +268,10 @@ public final class OracleTest {
             return "abcdefghij".substring(t, t + 1) + (t % 2 == 0 ? "" : "xyz");
         }
 
+        String ruleName(int i) {
+            return sharesNames && pick(12) == 0 ? name(pick(6)) : "klmnopqrst".substring(i, i + 1) + (i % 2 == 0 ? "" : "xyz");
+        }
+
         void line(String text) {
             if (out.length() + text.length() + 3 <= 700) {
                 out.append(text).append(pick(5) == 0 ? " ;\n" : ";");
@@ -274,7 +280,7 @@ public final class OracleTest {
 
         void rule(int i) {
             int mark = out.length();
-            out.append("rule ").append(name(i - 1)).append(' ').append(KIND[pick(5)]).append(" when ");
+            out.append("rule ").append(ruleName(i)).append(' ').append(KIND[pick(5)]).append(" when ");
             open = 0;
             sound(pick(0, 3));
             if (pick(2) == 0) {
@@ -768,6 +774,10 @@ final class Oracle {
             return NONE;
         }
 
+        boolean isNamed(String name) {
+            return teamNamed(name) != NONE || known.rules.stream().anyMatch(r -> r.name().equals(name));
+        }
+
         void read() {
             must("track");
             known.legs = number(2, 6);
@@ -792,7 +802,7 @@ final class Oracle {
                     at++;
                     Known.Runner r = new Known.Runner();
                     r.name = name();
-                    if (teamNamed(r.name) != NONE) {
+                    if (isNamed(r.name)) {
                         throw wrong(3);
                     }
                     at++;
@@ -859,7 +869,7 @@ final class Oracle {
                     }
                     at++;
                     String n = name();
-                    if (known.rules.stream().anyMatch(r -> r.name().equals(n))) {
+                    if (isNamed(n)) {
                         throw wrong(3);
                     }
                     at++;

@@ -172,7 +172,7 @@ public final class PromisesTest {
         due("no text", z.book(), -1);
         due("track alone", told(z, "track 2 50 0 0 50;"), 0);
         due("lines of all sorts", told(z, "track 2 50 0 0 50;team a 1;team b 2;runs a 20 0;act drop a 0 0;act impede a b 1 1;"
-            + "rule a box when 1=1;rule b drop when 1=2 excuse 3=3;through 1;within 0;"), 9);
+            + "rule c box when 1=1;rule d drop when 1=2 excuse 3=3;through 1;within 0;"), 9);
         due("about(12)", z.about(12), 0);
         due("waive", z.waive(0), 1);
         due("about(11)", z.about(11), 1);
@@ -449,7 +449,7 @@ public final class PromisesTest {
         promise = 23;
         BatonZones z = of("track 2 100 0 0 0;team a 1;act drop a 5 6;act lane a 5 7;runs a 99 1;"
             + "rule d drop when 1=1;rule l lane when 1=1 and 2=2 or not 3=3;rule c cut when size=6 excuse 1=2 or 3<4;"
-            + "rule i impede when ((1=1));rule b box when {size}>0 excuse size=6;");
+            + "rule i impede when ((1=1));rule o box when {size}>0 excuse size=6;");
         all("rule 0", -1, 3, i -> z.rule(0, i), NO, 0, 1, -1, NO);
         all("rule 1", 0, 2, i -> z.rule(1, i), 1, 3, -1);
         all("rule 2", 0, 2, i -> z.rule(2, i), 2, 1, 2);
@@ -518,7 +518,7 @@ public final class PromisesTest {
     private static void strikes() {
         promise = 26;
         BatonZones z = of("track 2 100 5 5 0;team a 1;team b 2;runs a 99 7;act drop a 10 6;act drop b 10 3;act lane a 10 6;"
-            + "rule x drop when size>2;rule y drop when size>2 excuse lane=1;rule l lane when size=5;rule b box when size=2;");
+            + "rule x drop when size>2;rule y drop when size>2 excuse lane=1;rule l lane when size=5;rule o box when size=2;");
         all("drop of a", -1, 4, r -> z.struckBy(0, r), NO, 1, 0, 0, 0, NO);
         all("drop of b", 0, 3, r -> z.struckBy(1, r), 1, 1, 0, 0);
         all("lane of a", 0, 3, r -> z.struckBy(2, r), 0, 0, 0, 0);
@@ -563,7 +563,7 @@ public final class PromisesTest {
     private static void struckTeams() {
         promise = 29;
         BatonZones z = of("track 2 100 5 5 0;team a 1;team b 2;team c 3;runs a 10" + "0 7;act drop a 90 6;act lane a 20 6;act drop a 20 7;act drop b 5 1;"
-            + "rule z drop when size=99;rule x drop when size>5;rule y drop when size>6;rule l lane when size>0;rule b box when size>0;");
+            + "rule z drop when size=99;rule x drop when size>5;rule y drop when size>6;rule l lane when size>0;rule o box when size>0;");
         all("a", -1, 3, i -> z.struck(0, i), -1, 1, 3, 4, -1);
         all("b", 0, 2, i -> z.struck(1, i), -2, -2, 0);
         all("c", -1, 3, i -> z.struck(2, i), -1, -2, -2, 0, -1);
@@ -660,7 +660,7 @@ public final class PromisesTest {
 
     private static void winners() {
         promise = 38;
-        BatonZones z = of(RESULTS + "act lane c 1 1;rule b box when tenth=100;act impede a b 1 1;rule i impede when 1=1;");
+        BatonZones z = of(RESULTS + "act lane c 1 1;rule o box when tenth=100;act impede a b 1 1;rule i impede when 1=1;");
         // struck: a (box, impede), c (box), d (drop), e (box); in the result b alone. acts 0 drop d, 1 lane c, 2 impede a, 3 a, 4 b, 5 c, 6 d, 7 e
         all("winner", -1, 8, z::winner, -1, 3, 1, 1, 1, 1, 2, 1, 1, -1);
         z.waive(0);
@@ -675,7 +675,7 @@ public final class PromisesTest {
         promise = 39;
         BatonZones z = of("track 2 100 5 5 0;team a 1;team b 2;team c 3;runs c 99 9;"
             + "act drop a 10 1;act drop a 20 1;act drop a 30 1;act impede a b 25 1;act lane b 30 1;act lane b 60 1;"
-            + "rule x drop when again>1;rule y lane when forced>0;rule b box when size>3;");
+            + "rule x drop when again>1;rule y lane when forced>0;rule o box when size>3;");
         // any one of the three drops waived leaves the third at again 1
         row("a", new int[] {z.stays(0, 0), z.stays(0, 1)}, 1, 1);
         // the act that impedes it, or that itself: the lesser number
