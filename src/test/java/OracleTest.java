@@ -36,7 +36,7 @@ public final class OracleTest {
             calls += whole(round);
         }
         int texts = 0;
-        for (int round = 1; round <= rounds * 40 && wrong < 20; round++) {
+        for (int round = 1; round <= rounds * 48 && wrong < 20; round++) {
             seed = round * 104729L + 3;
             texts += faults(round);
         }
@@ -60,7 +60,15 @@ public final class OracleTest {
         Oracle oracle = new Oracle();
         int calls = 0;
         String text = "";
-        for (int books = 0; books < 2; books++) {
+        int spoiled = pick(4);
+        // with a spoiled text 506 calls at most
+        for (int books = 0; books < 3; books++) {
+            if (books == spoiled) {
+                text = spoil(new Maker().text());
+                text = text.substring(0, Math.min(text.length(), 700));
+                calls += feed(round, zones, oracle, text);
+                compare(round, "book()", zones.book(), oracle.book(), text);
+            }
             text = new Maker().text();
             calls += feed(round, zones, oracle, text);
             compare(round, "book()", zones.book(), oracle.book(), text);
@@ -68,7 +76,7 @@ public final class OracleTest {
                 System.out.println("round " + round + ": made a faulty text, " + oracle.fault + " at " + oracle.faultPlace + "\n" + text);
                 wrong++;
             }
-            for (int k = 0; k < 180; k++) {
+            for (int k = 0; k < 119; k++) {
                 int[] a = Calls.make(oracle, OracleTest::pick);
                 if (pick(12) == 0) {
                     a[pick(1, 4)] = EXTREMES[pick(EXTREMES.length)];
@@ -101,7 +109,7 @@ public final class OracleTest {
         BatonZones zones = new BatonZones();
         Oracle oracle = new Oracle();
         int texts = 0;
-        for (int k = 0; k < 12; k++) {
+        for (int k = 0; k < 10; k++) {
             Maker maker = new Maker();
             maker.sharesNames = pick(3) == 0;
             int kind = pick(5);
